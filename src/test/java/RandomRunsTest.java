@@ -1,4 +1,6 @@
 import java.lang.reflect.Method;
+import java.lang.reflect.Modifier;
+import java.util.Arrays;
 import java.util.HashMap;
 import java.util.Map;
 import java.util.Random;
@@ -9,7 +11,7 @@ import java.util.TreeMap;
  * model and, where it is a word, with that of the flat memory.
  */
 public final class RandomRunsTest {
-    private static final int RUNS = 3000;
+    private static final int RUNS = 2000;
     private static final int CALLS = 512;
     private static final String[] EVENTS = {
         "a blank content is evicted", "a cluster is shortened", "a cluster of 1", "a cluster of 2",
@@ -30,12 +32,13 @@ public final class RandomRunsTest {
     private final PagedMemory real = new PagedMemory();
     private final Model model = new Model();
     private final FlatMemory flat = new FlatMemory();
-    private final StringBuilder calls = new StringBuilder();
+    private final StringBuilder told = new StringBuilder();
     /** How this run is: how many of a hundred accesses write, change the pages, or are near the last. */
     private final int writes;
     private final int changes;
     private final int near;
     private final int wrongInputs;
+    private int made = 0;
     private int processes = 0;
     private int lastAddress = 0;
     private boolean differs = false;
@@ -53,7 +56,7 @@ public final class RandomRunsTest {
             REAL.put(method.getName(), method);
         }
         for (Method method : Model.class.getDeclaredMethods()) {
-            if (java.lang.reflect.Modifier.isPublic(method.getModifiers())) {
+            if (Modifier.isPublic(method.getModifiers())) {
                 MODEL.put(method.getName(), method);
             }
         }
@@ -61,7 +64,7 @@ public final class RandomRunsTest {
             RandomRunsTest test = new RandomRunsTest(run);
             test.run();
             test.model.met.forEach((event, times) -> MET.merge(event, times, Integer::sum));
-            Runs.due("random run " + run, test.differs ? test.calls.toString() : "as due", "as due");
+            Runs.due("random run " + run, test.differs ? test.told.toString() : "as due", "as due");
         }
         for (String event : EVENTS) {
             Runs.due("met " + event, MET.containsKey(event), true);
@@ -73,7 +76,7 @@ public final class RandomRunsTest {
 
     private void run() {
         settings();
-        for (int made = calls(); made < CALLS - 1 && !differs; made = calls()) {
+        while (made < CALLS - 1 && !differs) {
             int dice = random.nextInt(100);
             if (dice < changes) {
                 change();
@@ -84,12 +87,6 @@ public final class RandomRunsTest {
             }
         }
         both("digest");
-    }
-
-    private int made = 0;
-
-    private int calls() {
-        return made;
     }
 
     private void settings() {
@@ -121,13 +118,22 @@ public final class RandomRunsTest {
             case 5: both("setFrames", number(4, 12)); break;
             case 6: both("setWindow", number(0, 50)); break;
             case 7: both("sync"); break;
-            case 8: both("sync"); break;
+            case 8: unmapAllInFrames(process()); break;
             case 9: case 10: case 11: case 12:
                 both("unmap", process(), number(0, 15)); break;
             case 13: case 14: case 15: case 16:
                 both("attach", process(), number(0, 15), number(0, 3), number(0, 5)); break;
             default:
                 both("map", process(), number(0, 15)); break;
+        }
+    }
+
+    /** So that frames are free while contents are in slots alone: only then there are prefetches. */
+    private void unmapAllInFrames(int process) {
+        for (int page = 0; page < 16 && made < CALLS - 1; page++) {
+            if (process >= 0 && process < processes && real.frameOf(process, page) >= 0) {
+                both("unmap", process, page);
+            }
         }
     }
 
@@ -172,10 +178,10 @@ public final class RandomRunsTest {
 
     private void both(String name, int... arguments) {
         made++;
-        calls.append(name).append(java.util.Arrays.toString(arguments));
+        told.append(name).append(Arrays.toString(arguments));
         String got = Runs.answer(real, REAL.get(name), arguments);
         String want = Runs.answer(model, MODEL.get(name), arguments);
-        calls.append(" = ").append(got).append(";\n");
+        told.append(" = ").append(got).append(";\n");
         if (!got.equals(want)) {
             fail("the model answers " + want);
         }
@@ -207,7 +213,7 @@ public final class RandomRunsTest {
 
     private void fail(String why) {
         if (!differs) {
-            calls.append("!! ").append(why).append('\n');
+            told.append("!! ").append(why).append('\n');
         }
         differs = true;
     }
