@@ -36,7 +36,8 @@ public final class PagesTest {
                 "createSegment(1)" + STATE, "createSegment(7)" + ILLEGAL, "createSegment(0)" + ILLEGAL,
                 "start() = 0; attach(0, 0, 0, 0) = 1; attach(0, 1, 0, 1)" + INDEX, "attach(0, 1, 1, 5) = 2;",
                 "attach(0, 2, 1, 6)" + INDEX, "attach(0, 2, 2, 2) = 3; attach(0, 3, 2, 3)" + INDEX,
-                "attach(0, 3, 3, 1) = 4; attach(0, 4, 3, 2)" + INDEX);
+                "attach(0, 3, 3, 1) = 4; attach(0, 4, 3, 2)" + INDEX, "attach(0, 4, 4, 0)" + INDEX,
+                "attach(0, 4, 4, 5)" + INDEX);
         Runs.run("8: wrong sizes",
                 "createSegment(0)" + ILLEGAL, "createSegment(7)" + ILLEGAL, "createSegment(-1)" + ILLEGAL,
                 "createSegment(2147483647)" + ILLEGAL, "createSegment(-2147483648)" + ILLEGAL,
