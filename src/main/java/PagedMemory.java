@@ -487,11 +487,14 @@ public final class PagedMemory {
         prefetchBehind(content.slot);
     }
 
+    /** Takes free frames only: a prefetch never drives a content out. */
     private void prefetchBehind(int slot) {
         for (int next = slot + 1; next <= slot + PREFETCH_REACH && next < SLOTS; next++) {
             Content content = swapArea.contents[next];
-            if (content != null && content.frame == NONE && frameTable.smallestFree() != NONE) {
-                giveFrame(content, PREFETCHES);
+            int frame = frameTable.smallestFree();
+            if (content != null && content.frame == NONE && frame != NONE) {
+                frameTable.put(content, frame, now);
+                counts[PREFETCHES]++;
             }
         }
     }
