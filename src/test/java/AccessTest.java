@@ -5,14 +5,6 @@ public final class AccessTest {
     private static final String STATE = " = throws.IllegalStateException; ";
     private static final String INDEX = " = throws.IndexOutOfBoundsException; ";
 
-    /**
-     * Pages 0 to 3 of process 0 have 100 to 103 in word 0 and are in the slots 0 to 3 alone; the four
-     * frames are free, and the time is 8: process 1 has driven them out.
-     */
-    private static final String FOUR_IN_SLOTS = "setFrames(4) = 6; start() = 0; " + Runs.maps(0, 0, 3)
-            + Runs.writes(0, 0, 1, 2, 3) + "sync() = 4; start() = 1; " + Runs.maps(1, 0, 3)
-            + Runs.reads(1, 0, 0, 1, 2, 3) + "exit(1) = 4; freeFrames() = 4; time() = 8; ";
-
     public static void main(String[] args) {
         read();
         write();
@@ -68,24 +60,24 @@ public final class AccessTest {
 
     private static void swapInsAndPrefetches() {
         Runs.run("13: a swap-in keeps the slot and brings the next three",
-                FOUR_IN_SLOTS, "slotOf(0, 0) = 0; slotOf(0, 3) = 3; frameOf(0, 3) = -1; read(0, 0) = 100;",
+                States.FOUR_IN_SLOTS, "slotOf(0, 0) = 0; slotOf(0, 3) = 3; frameOf(0, 3) = -1; read(0, 0) = 100;",
                 "count(1) = 1; count(3) = 3; count(0) = 8; frameOf(0, 0) = 0; frameOf(0, 1) = 1;",
                 "frameOf(0, 2) = 2; frameOf(0, 3) = 3; slotOf(0, 0) = 0; slotOf(0, 1) = 1;",
                 "latestUse(0) = 9; latestUse(1) = 9; latestUse(3) = 9; isReferenced(0) = true;",
                 "isReferenced(1) = false; isReferenced(3) = false; frameState(0) = 1; frameState(3) = 1;",
                 "freeSlots() = 20; read(0, 12) = 103; count(1) = 1; swapRate() = 1/10; time() = 10");
         Runs.run("13: not those before it",
-                FOUR_IN_SLOTS, "read(0, 4) = 101; count(1) = 1; count(3) = 2; frameOf(0, 1) = 0;",
+                States.FOUR_IN_SLOTS, "read(0, 4) = 101; count(1) = 1; count(3) = 2; frameOf(0, 1) = 0;",
                 "frameOf(0, 2) = 1; frameOf(0, 3) = 2; frameOf(0, 0) = -1; freeFrames() = 1");
         Runs.run("13: a free slot and a content in a frame are passed over",
-                FOUR_IN_SLOTS, "unmap(0, 1) = true; read(0, 0) = 100; count(3) = 2; frameOf(0, 2) = 1;",
+                States.FOUR_IN_SLOTS, "unmap(0, 1) = true; read(0, 0) = 100; count(3) = 2; frameOf(0, 2) = 1;",
                 "frameOf(0, 3) = 2; freeFrames() = 1");
         Runs.run("13: a content that is in a frame, too, is passed over",
-                FOUR_IN_SLOTS, "read(0, 12) = 103; count(3) = 0; frameOf(0, 3) = 0; read(0, 4) = 101;",
+                States.FOUR_IN_SLOTS, "read(0, 12) = 103; count(3) = 0; frameOf(0, 3) = 0; read(0, 4) = 101;",
                 "count(1) = 2; count(3) = 1; frameOf(0, 1) = 1; frameOf(0, 2) = 2; latestUse(0) = 9;",
                 "freeFrames() = 1");
         Runs.run("13: only while frames are free",
-                FOUR_IN_SLOTS, "start() = 2; map(2, 0) = 1; map(2, 1) = 2; read(2, 0) = 0; read(2, 4) = 0;",
+                States.FOUR_IN_SLOTS, "start() = 2; map(2, 0) = 1; map(2, 1) = 2; read(2, 0) = 0; read(2, 4) = 0;",
                 "read(0, 0) = 100; count(3) = 1; frameOf(0, 0) = 2; frameOf(0, 1) = 3; frameOf(0, 2) = -1;",
                 "count(4) = 4; read(0, 12) = 103; count(3) = 1; count(4) = 5");
         Runs.run("13: the next three, not four",
@@ -94,20 +86,14 @@ public final class AccessTest {
                 "exit(1) = 5; freeFrames() = 5; read(0, 0) = 100; count(3) = 3; freeFrames() = 1;",
                 "frameOf(0, 3) = 3; frameOf(0, 4) = -1; slotOf(0, 4) = 4");
         Runs.run("14: a write swaps in and prefetches as a read does; then the slot is lost",
-                FOUR_IN_SLOTS, "write(0, 5, 7) = 0; count(1) = 1; count(3) = 2; slotOf(0, 1) = -1;",
+                States.FOUR_IN_SLOTS, "write(0, 5, 7) = 0; count(1) = 1; count(3) = 2; slotOf(0, 1) = -1;",
                 "slotOf(0, 2) = 2; freeSlots() = 21; frameState(0) = 2; frameState(1) = 1;",
                 "isReferenced(0) = true; isReferenced(1) = false; read(0, 4) = 101; read(0, 5) = 7");
     }
 
     /** 24 contents in all slots, alone; a swap-in at the end of the swap area. */
     private static void prefetchAtTheLastSlots() {
-        String allInSlots = "setWindow(50) = 8; setFrames(12) = 6; start() = 0; start() = 1; start() = 2; "
-                + Runs.maps(0, 0, 15) + Runs.maps(1, 0, 7) + Runs.maps(2, 0, 11)
-                + Runs.writes(0, 0, 1, 2, 3, 4, 5, 6, 7, 8, 9, 10, 11) + "sync() = 12; "
-                + Runs.writes(0, 12, 13, 14, 15) + "sync() = 4; "
-                + Runs.writes(1, 0, 1, 2, 3, 4, 5, 6, 7) + "sync() = 8; freeSlots() = 0; "
-                + Runs.reads(2, 0, 0, 1, 2, 3, 4, 5, 6, 7, 8, 9, 10, 11) + "exit(2) = 12; "
-                + "freeFrames() = 12; slotOf(1, 7) = 23; ";
+        String allInSlots = States.SLOTS_FULL_AND_FRAMES_FREE;
         Runs.run("13: nothing is behind the last slot",
                 allInSlots, "read(1, 28) = 107; count(1) = 1; count(3) = 0; freeFrames() = 11");
         Runs.run("13: one slot is behind the last but one",
@@ -128,13 +114,13 @@ public final class AccessTest {
                 "frameOf(0, 0) = 0; frameState(0) = 1; latestUse(0) = 1; isReferenced(0) = false;",
                 "frameOf(1, 0) = 1; frameState(1) = 2; isReferenced(1) = true; read(0, 0) = 0");
         Runs.run("14: the original is swapped in first and keeps its slot",
-                FOUR_IN_SLOTS, "fork(0) = 2; write(2, 13, 7) = 0; count(1) = 1; count(2) = 1;",
+                States.FOUR_IN_SLOTS, "fork(0) = 2; write(2, 13, 7) = 0; count(1) = 1; count(2) = 1;",
                 "frameOf(0, 3) = 0; slotOf(0, 3) = 3; frameState(0) = 1; latestUse(0) = 9;",
                 "isReferenced(0) = false; frameOf(2, 3) = 1; slotOf(2, 3) = -1; frameState(1) = 2;",
                 "isReferenced(1) = true; sharersOf(0, 3) = 1; sharersOf(2, 2) = 2; read(2, 12) = 103;",
                 "read(0, 13) = 0");
         Runs.run("14: its prefetches come before the copy's frame",
-                FOUR_IN_SLOTS, "fork(0) = 2; write(2, 1, 7) = 0; count(3) = 3; count(4) = 5;",
+                States.FOUR_IN_SLOTS, "fork(0) = 2; write(2, 1, 7) = 0; count(3) = 3; count(4) = 5;",
                 "frameOf(0, 0) = -1; frameOf(2, 0) = 0; read(2, 0) = 100; hand() = 1");
         Runs.run("14: the copy may drive its original out",
                 "setFrames(4) = 6; start() = 0; map(0, 0) = 1; write(0, 0, 8) = 0; sync() = 1; fork(0) = 1;",
@@ -147,7 +133,7 @@ public final class AccessTest {
     }
 
     private static void noFrameCanBeHad() {
-        String full = WriteOutTest.SLOTS_FULL_AND_FRAMES_DIRTY;
+        String full = States.SLOTS_FULL_AND_FRAMES_DIRTY;
         Runs.run("13, 14: a content without a frame, slots full and all dirty",
                 full, "read(0, 0)" + STATE, "write(0, 0, 1)" + STATE, "map(1, 12) = 13;",
                 "read(1, 48)" + STATE, "write(1, 48, 1)" + STATE, "time() = 28; read(1, 32) = 108;",

@@ -8,31 +8,25 @@ public final class ClockTest {
         Runs.finish();
     }
 
-    private static String fourReadAndAFifth(int window) {
-        return "setWindow(" + window + ") = 8; setFrames(4) = 6; start() = 0; " + Runs.maps(0, 0, 6)
-                + Runs.reads(0, 0, 0, 1, 2, 3) + "hand() = 0; " + Runs.reads(0, 0, 4)
-                + "hand() = 1; frameOf(0, 0) = -1; frameOf(0, 4) = 0; count(4) = 1; ";
-    }
-
     private static void marksAndWindow() {
         Runs.run("a mark is removed, and the latest use becomes the present time",
-                fourReadAndAFifth(0), "isReferenced(0) = true; isReferenced(1) = false; latestUse(0) = 5;",
+                States.fourReadAndAFifth(0), "isReferenced(0) = true; isReferenced(1) = false; latestUse(0) = 5;",
                 "isReferenced(3) = false; latestUse(1) = 5; latestUse(2) = 5; latestUse(3) = 5");
         Runs.run("a clean frame outside the window is freed at once",
-                fourReadAndAFifth(0), Runs.reads(0, 0, 5), "frameOf(0, 5) = 1; frameOf(0, 1) = -1;",
+                States.fourReadAndAFifth(0), Runs.reads(0, 0, 5), "frameOf(0, 5) = 1; frameOf(0, 1) = -1;",
                 "hand() = 2; isReferenced(0) = true; latestUse(0) = 5; latestUse(1) = 6; latestUse(2) = 5");
         Runs.run("as long ago as the window is not outside it",
-                fourReadAndAFifth(2), Runs.reads(0, 0, 4, 5), "time() = 7; frameOf(0, 5) = 1;",
+                States.fourReadAndAFifth(2), Runs.reads(0, 0, 4, 5), "time() = 7; frameOf(0, 5) = 1;",
                 "hand() = 2; isReferenced(0) = false; latestUse(0) = 7");
         Runs.run("longer ago than the window is",
-                fourReadAndAFifth(2), Runs.reads(0, 0, 4, 4, 5), "time() = 8; frameOf(0, 5) = 1;",
+                States.fourReadAndAFifth(2), Runs.reads(0, 0, 4, 4, 5), "time() = 8; frameOf(0, 5) = 1;",
                 "hand() = 2; isReferenced(0) = true; latestUse(0) = 7");
         Runs.run("the clock passes a marked frame and frees the next",
-                fourReadAndAFifth(0), Runs.reads(0, 0, 1, 5), "frameOf(0, 1) = 1; frameOf(0, 5) = 2;",
+                States.fourReadAndAFifth(0), Runs.reads(0, 0, 1, 5), "frameOf(0, 1) = 1; frameOf(0, 5) = 2;",
                 "frameOf(0, 2) = -1; hand() = 3; isReferenced(1) = false; latestUse(1) = 7;",
                 "isReferenced(0) = true; latestUse(0) = 5");
         Runs.run("the hand goes from the last frame to frame 0",
-                fourReadAndAFifth(0), Runs.reads(0, 0, 5, 6, 0), "frameOf(0, 0) = 3; hand() = 0;",
+                States.fourReadAndAFifth(0), Runs.reads(0, 0, 5, 6, 0), "frameOf(0, 0) = 3; hand() = 0;",
                 Runs.reads(0, 0, 1), "frameOf(0, 1) = 0; hand() = 1; isReferenced(1) = false;",
                 "latestUse(1) = 9; isReferenced(3) = false; latestUse(3) = 9");
     }
@@ -57,7 +51,7 @@ public final class ClockTest {
                 "slotOf(0, 2) = 1; slotOf(0, 3) = 2; frameOf(0, 3) = -1; frameOf(0, 1) = 2;",
                 "frameOf(0, 2) = 1; hand() = 3; slotOf(0, 6) = -1; count(5) = 3");
         Runs.run("without a slot nothing is written, and a clean frame is looked for",
-                WriteOutTest.SLOTS_FULL_AND_FRAMES_DIRTY, "setWindow(0) = 8; unmap(1, 9) = true;",
+                States.SLOTS_FULL_AND_FRAMES_DIRTY, "setWindow(0) = 8; unmap(1, 9) = true;",
                 "read(0, 0) = 100; frameOf(0, 0) = 1;",
                 "read(1, 32) = 108; read(0, 4) = 101; frameOf(0, 1) = 1; frameOf(0, 0) = -1; frameState(0) = 2;",
                 "count(5) = 24");
@@ -94,7 +88,7 @@ public final class ClockTest {
                 "slotOf(0, 1) = 0; count(4) = 2; count(0) = 6; read(0, 0) = 0; count(0) = 7;",
                 "read(0, 4) = 101; count(1) = 1; count(0) = 7; freeSlots() = 23");
         Runs.run("a free frame is taken before the clock is asked",
-                fourReadAndAFifth(0), "unmap(0, 3) = true; freeFrames() = 1;", Runs.reads(0, 0, 5),
+                States.fourReadAndAFifth(0), "unmap(0, 3) = true; freeFrames() = 1;", Runs.reads(0, 0, 5),
                 "frameOf(0, 5) = 3; hand() = 1; count(4) = 1; latestUse(1) = 5; freeFrames() = 0");
     }
 }

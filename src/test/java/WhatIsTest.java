@@ -96,7 +96,7 @@ public final class WhatIsTest {
                 "freeSlots() = 24; sync() = 4; freeSlots() = 20; write(0, 0, 1) = 100; freeSlots() = 21;",
                 "unmap(0, 1) = true; freeSlots() = 22; unmap(0, 0) = true; freeSlots() = 22; exit(0) = 2;",
                 "freeSlots() = 24");
-        Runs.run("25: none", WriteOutTest.SLOTS_FULL_AND_FRAMES_DIRTY, "freeSlots() = 0; exit(0) = 16;",
+        Runs.run("25: none", States.SLOTS_FULL_AND_FRAMES_DIRTY, "freeSlots() = 0; exit(0) = 16;",
                 "freeSlots() = 16; exit(1) = 12; freeSlots() = 24");
     }
 

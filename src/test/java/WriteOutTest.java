@@ -1,17 +1,5 @@
 /** Promise 15, sync, and the clusters in which contents are written out. */
 public final class WriteOutTest {
-    /**
-     * Four frames with the pages 8 to 11 of process 1, all dirty; pages 0 to 15 of process 0 are in
-     * the slots of the same numbers, and pages 0 to 7 of process 1 in the slots 16 to 23.
-     */
-    static final String SLOTS_FULL_AND_FRAMES_DIRTY = "setFrames(4) = 6; start() = 0; start() = 1; "
-            + Runs.maps(0, 0, 15) + Runs.maps(1, 0, 11)
-            + Runs.writes(0, 0, 1, 2, 3, 4, 5, 6, 7, 8, 9, 10, 11, 12, 13, 14, 15)
-            + Runs.writes(1, 0, 1, 2, 3, 4, 5, 6, 7, 8, 9, 10, 11)
-            + "freeSlots() = 0; freeFrames() = 0; frameState(0) = 2; frameState(1) = 2; "
-            + "frameState(2) = 2; frameState(3) = 2; slotOf(0, 0) = 0; slotOf(0, 15) = 15; "
-            + "slotOf(1, 0) = 16; slotOf(1, 7) = 23; frameOf(1, 8) = 0; frameOf(1, 11) = 3; count(5) = 24; ";
-
     public static void main(String[] args) {
         sync();
         whatEndsACluster();
@@ -37,7 +25,7 @@ public final class WriteOutTest {
                 "start() = 0;", Runs.maps(0, 0, 2), Runs.writes(0, 1, 0, 2), "sync() = 3;",
                 "slotOf(0, 1) = 0; slotOf(0, 2) = 1; slotOf(0, 0) = 2");
         Runs.run("15: nothing is written without a slot",
-                SLOTS_FULL_AND_FRAMES_DIRTY, "sync() = 0; count(5) = 24; frameState(0) = 2");
+                States.SLOTS_FULL_AND_FRAMES_DIRTY, "sync() = 0; count(5) = 24; frameState(0) = 2");
     }
 
     /** Page 5 is in frame 1: it stands behind the first cluster, and shows how long that one was. */
@@ -119,11 +107,11 @@ public final class WriteOutTest {
                 "unmap(0, 5) = true; map(0, 10) = 6; unmap(0, 0) = true;", Runs.writes(0, 8, 9, 10),
                 "sync() = 3; slotOf(0, 8) = 5; slotOf(0, 9) = 6; slotOf(0, 10) = 7; freeSlots() = 19");
         Runs.run("15: a cluster is shortened by its last contents",
-                SLOTS_FULL_AND_FRAMES_DIRTY, "unmap(0, 2) = true; unmap(0, 3) = true; unmap(0, 6) = true;",
+                States.SLOTS_FULL_AND_FRAMES_DIRTY, "unmap(0, 2) = true; unmap(0, 3) = true; unmap(0, 6) = true;",
                 "sync() = 3; slotOf(1, 8) = 2; slotOf(1, 9) = 3; slotOf(1, 10) = 6; slotOf(1, 11) = -1;",
                 "frameState(2) = 1; frameState(3) = 2; freeSlots() = 0; count(5) = 27");
         Runs.run("15: to one content, at the last slot",
-                SLOTS_FULL_AND_FRAMES_DIRTY, "unmap(1, 7) = true; sync() = 1; slotOf(1, 8) = 23;",
+                States.SLOTS_FULL_AND_FRAMES_DIRTY, "unmap(1, 7) = true; sync() = 1; slotOf(1, 8) = 23;",
                 "slotOf(1, 9) = -1");
     }
 }
