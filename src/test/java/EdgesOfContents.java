@@ -170,7 +170,7 @@ final class EdgesOfContents {
                 "frameOf(1, 0) = 1; isReferenced(1) = true; latestUse(1) = 5; isReferenced(2) = false");
     }
 
-    /** Start, map and a write, 508 reads and the digest of what is then. */
+    /** Start, map and a write, 508 reads, and time as the last call of all. */
     private static void lastCall() {
         PagedMemory memory = new PagedMemory();
         String name = Edges.name(Document.DESCRIPTION, "An object is used for at most 512 calls");

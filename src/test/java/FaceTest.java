@@ -1,119 +1,117 @@
-import java.io.IOException;
 import java.lang.reflect.Constructor;
+import java.lang.reflect.Executable;
 import java.lang.reflect.Field;
 import java.lang.reflect.Method;
 import java.lang.reflect.Modifier;
-import java.nio.file.Files;
-import java.nio.file.Path;
+import java.util.ArrayList;
+import java.util.Arrays;
 import java.util.HashSet;
+import java.util.List;
 import java.util.Set;
 import java.util.TreeSet;
-import java.util.regex.Matcher;
-import java.util.regex.Pattern;
 
-/** The document's public face, and those rules of LANGUAGE.md that can be seen by looking. */
+/** The document's public face: all that it has, with its types and exceptions, and nothing besides. */
 public final class FaceTest {
-    private static final Path SOURCE = Path.of("src/main/java/PagedMemory.java");
-    private static final String INDEX = "IndexOutOfBoundsException";
-    private static final String GONE = ",NoSuchElementException";
-    private static final String ILLEGAL = "IllegalArgumentException";
-    private static final String STATE = "IllegalStateException";
-    private static final String[] FACE = {
-        "int setFrames(1) " + ILLEGAL + "," + STATE, "int setWindow(1) " + ILLEGAL,
-        "int start(0) " + STATE, "int fork(1) " + INDEX + GONE + "," + STATE, "int exit(1) " + INDEX + GONE,
-        "int map(2) " + INDEX + GONE + "," + ILLEGAL, "int createSegment(1) " + ILLEGAL + "," + STATE,
-        "int attach(4) " + INDEX + GONE + "," + ILLEGAL, "boolean unmap(2) " + INDEX + GONE + "," + ILLEGAL,
-        "boolean isLive(1) " + INDEX, "int mapping(2) " + INDEX,
-        "int read(2) " + INDEX + GONE + "," + ILLEGAL + "," + STATE,
-        "int write(3) " + INDEX + GONE + "," + ILLEGAL + "," + STATE, "int sync(0) ", "int time(0) ",
-        "int hand(0) ", "int frameOf(2) " + INDEX, "int slotOf(2) " + INDEX, "int sharersOf(2) " + INDEX,
-        "int frameState(1) " + INDEX, "int latestUse(1) " + INDEX, "boolean isReferenced(1) " + INDEX,
-        "int freeFrames(0) ", "int freeSlots(0) ", "int workingSet(1) " + INDEX, "int count(1) " + INDEX,
-        "double swapRate(0) ", "long digest(0) ",
-    };
-    /** What rules 2 to 6, 8 and 13 leave out; seen in the source without comments and texts. */
-    private static final String[] LEFT_OUT = {
-        "->", "::", "\\bfinally\\b", "\\bsynchronized\\b", "\\bassert\\b", "\\btry\\b", "\\bcatch\\b",
-        "\\bMath\\.\\w+Exact\\b", "\\bhashCode\\b", "\\bequals\\b", "\\btoString\\b", "\\bSystem\\.(?!arraycopy)",
-        "\\bThread\\b", "\\bRandom\\b", "\\bMap\\b", "\\bSet\\b", "\\bObject\\b", "\\bstatic \\{", "\\bpackage\\b",
-        "\\bvar\\b", "\\bnative\\b", "\\bvolatile\\b", "\\bstream\\b", "while \\(true\\)", "for \\(;;\\)",
-    };
+    private static final int LINES = 29;
 
-    public static void main(String[] args) throws IOException {
-        methods();
-        otherMembers();
-        source();
+    public static void main(String[] args) {
+        asTheFaceSays();
+        asThePromisesSay();
+        nothingBesides();
+        namesOfTheFace();
         Runs.finish();
     }
 
-    private static void methods() {
-        Set<String> open = new TreeSet<>();
-        Set<String> openNames = new HashSet<>();
-        for (Method method : PagedMemory.class.getDeclaredMethods()) {
-            if (Modifier.isPublic(method.getModifiers())) {
-                open.add(told(method));
-                openNames.add(method.getName());
-            }
+    private static void asTheFaceSays() {
+        List<String> face = new Document().face();
+        Runs.due("the lines of the face", face.size(), LINES);
+        Set<String> want = new TreeSet<>();
+        for (String line : face) {
+            want.add(withoutNames(line));
         }
-        Runs.due("the public methods", open, new TreeSet<>(Set.of(FACE)));
-        Set<Class<?>> classes = new HashSet<>(Set.of(PagedMemory.class.getDeclaredClasses()));
-        classes.add(PagedMemory.class);
-        for (Class<?> each : classes) {
-            for (Method method : each.getDeclaredMethods()) {
-                boolean isFace = each == PagedMemory.class && Modifier.isPublic(method.getModifiers());
-                if (!isFace) {
-                    Runs.due("rule 1: a name of the face at " + method, openNames.contains(method.getName()), false);
-                    Runs.due("rule 11: the parameters of " + method, method.getParameterCount() <= 7, true);
-                }
-                if (!isFace && each == PagedMemory.class) {
-                    Runs.due("rule 1: private " + method, Modifier.isPrivate(method.getModifiers()), true);
-                }
-            }
-        }
-    }
-
-    private static String told(Method method) {
-        StringBuilder text = new StringBuilder();
-        for (Class<?> exception : method.getExceptionTypes()) {
-            text.append(text.length() == 0 ? "" : ",").append(exception.getSimpleName());
-        }
-        for (Class<?> parameter : method.getParameterTypes()) {
-            Runs.due("a parameter of " + method.getName(), parameter, int.class);
-        }
-        return method.getReturnType() + " " + method.getName() + "(" + method.getParameterCount() + ") " + text;
-    }
-
-    private static void otherMembers() {
+        Runs.due("the public face", visible(), want);
         int modifiers = PagedMemory.class.getModifiers();
-        Runs.due("a public class", Modifier.isPublic(modifiers) && Modifier.isFinal(modifiers), true);
+        Runs.due("a public final class", Modifier.isPublic(modifiers) && Modifier.isFinal(modifiers), true);
+        Runs.due("its package", PagedMemory.class.getPackageName(), "");
+    }
+
+    private static void asThePromisesSay() {
+        Document document = new Document();
+        Set<String> want = new TreeSet<>();
+        for (int promise = 1; promise <= Document.LAST_PROMISE; promise++) {
+            want.add(withoutNames(document.signatureOf(promise)));
+        }
+        Runs.due("the signatures of the promises", visible(), want);
+    }
+
+    /** "int map(int process, int page) throws .." without the names of the parameters. */
+    private static String withoutNames(String signature) {
+        return signature.replaceAll("\\b(int|long|boolean|double) (\\w+)(?=[,)])", "$1");
+    }
+
+    private static Set<String> visible() {
+        Set<String> found = new TreeSet<>();
+        for (Executable member : members()) {
+            if (!Modifier.isPrivate(member.getModifiers())) {
+                Runs.due("public " + member, Modifier.isPublic(member.getModifiers()), true);
+                Runs.due("of objects " + member, Modifier.isStatic(member.getModifiers()), false);
+                found.add(told(member));
+            }
+        }
+        return found;
+    }
+
+    private static List<Executable> members() {
+        List<Executable> all = new ArrayList<>(Arrays.asList(PagedMemory.class.getDeclaredConstructors()));
+        all.addAll(Arrays.asList(PagedMemory.class.getDeclaredMethods()));
+        return all;
+    }
+
+    private static String told(Executable member) {
+        String type = member instanceof Method method ? method.getReturnType() + " " : "";
+        String exceptions = names(member.getExceptionTypes());
+        return type + member.getName() + "(" + names(member.getParameterTypes()) + ")"
+                + (exceptions.isEmpty() ? "" : " throws " + exceptions);
+    }
+
+    private static String names(Class<?>[] types) {
+        List<String> names = new ArrayList<>();
+        for (Class<?> type : types) {
+            names.add(type.getSimpleName());
+        }
+        return String.join(", ", names);
+    }
+
+    private static void nothingBesides() {
         Constructor<?>[] constructors = PagedMemory.class.getDeclaredConstructors();
         Runs.due("constructors", constructors.length, 1);
-        Runs.due("its parameters", constructors[0].getParameterCount(), 0);
-        Runs.due("it is public", Modifier.isPublic(constructors[0].getModifiers()), true);
         for (Field field : PagedMemory.class.getDeclaredFields()) {
-            int kind = field.getModifiers();
-            Runs.due("rule 1: private " + field, Modifier.isPrivate(kind), true);
-            Runs.due("rule 5: final " + field, Modifier.isFinal(kind) || !Modifier.isStatic(kind), true);
+            Runs.due("rule 1: private " + field, Modifier.isPrivate(field.getModifiers()), true);
         }
         for (Class<?> inside : PagedMemory.class.getDeclaredClasses()) {
             int kind = inside.getModifiers();
             boolean isHidden = !Modifier.isPublic(kind) && !Modifier.isProtected(kind);
             Runs.due("rule 1: " + inside, Modifier.isStatic(kind) && isHidden, true);
         }
+        Runs.due("above it", PagedMemory.class.getSuperclass(), Object.class);
+        Runs.due("its interfaces", PagedMemory.class.getInterfaces().length, 0);
     }
 
-    private static void source() throws IOException {
-        String text = Files.readString(SOURCE);
-        String code = text.replaceAll("(?s)/\\*.*?\\*/", " ").replaceAll("//[^\n]*", " ")
-                .replaceAll("\"[^\"]*\"", "\"\"");
-        for (String pattern : LEFT_OUT) {
-            Matcher matcher = Pattern.compile(pattern).matcher(code);
-            Runs.due("LANGUAGE.md leaves out " + pattern, matcher.find(), false);
+    private static void namesOfTheFace() {
+        Set<String> open = new HashSet<>();
+        List<Method> hidden = new ArrayList<>();
+        for (Method method : PagedMemory.class.getDeclaredMethods()) {
+            if (Modifier.isPublic(method.getModifiers())) {
+                open.add(method.getName());
+            } else {
+                hidden.add(method);
+            }
         }
-        Matcher imports = Pattern.compile("import ([\\w.]+);").matcher(code);
-        while (imports.find()) {
-            Runs.due("an import", imports.group(1), "java.util.NoSuchElementException");
+        for (Class<?> inside : PagedMemory.class.getDeclaredClasses()) {
+            hidden.addAll(Arrays.asList(inside.getDeclaredMethods()));
         }
-        Runs.due("characters of the source", text.chars().allMatch(c -> c < 128), true);
+        for (Method method : hidden) {
+            Runs.due("rule 1: a name of the face at " + method, open.contains(method.getName()), false);
+        }
     }
 }
